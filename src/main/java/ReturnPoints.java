@@ -221,6 +221,7 @@ public final class ReturnPoints {
         if (map == null) {
             return found(NULL);
         }
+        roads.survey(map);
         return fine(what == 0 ? sizeAsked(map) : markAsked(map));
     }
 
@@ -437,18 +438,19 @@ public final class ReturnPoints {
     }
 
     // ---- ASKS: no KIND is below PLAIN or HIGH, so what these ask anew is known ahead;
-    // the bodies name it straight, and no call stands within itself
+    // the bodies name it straight, and no call stands within itself. ask() has the MAP
+    // surveyed ahead of them, so that they stand few calls deep
 
     private int sizeAsked(Poly map) {
         switch (map.told) {
             case STRAIGHT:
                 return body11();
             case SQUARE:
-                return body12(map);
+                return body12();
             case PLAIN:
                 return body13(map);
             default:
-                return body10(map);
+                return body10();
         }
     }
 
@@ -472,9 +474,9 @@ public final class ReturnPoints {
         }
     }
 
-    private int body10(Poly map) {
+    private int body10() {
         begin(10);
-        return p - roadsOf(map).pointsWithoutComers();
+        return p - roads.pointsWithoutComers();
     }
 
     private int body11() {
@@ -482,14 +484,14 @@ public final class ReturnPoints {
         return p;
     }
 
-    private int body12(Poly map) {
+    private int body12() {
         begin(12);
-        return 2 * body10(map);
+        return 2 * body10();
     }
 
     private int body13(Poly map) {
         begin(13);
-        int size = body12(map);
+        int size = body12();
         return size + body22(map);
     }
 
@@ -506,13 +508,13 @@ public final class ReturnPoints {
     private int body22(Poly map) {
         begin(22);
         int mark = body21(map);
-        return mark + roadsOf(map).orbits.period[0];
+        return mark + roads.orbits.period[0];
     }
 
     private int body23(Poly map) {
         begin(23);
         int mark = body20(map);
-        return mark + body10(map);
+        return mark + body10();
     }
 
     /** Items of one lane; all are kept as longs, cut to the lane when they come in. */

@@ -35,6 +35,11 @@ public final class PromisesTest {
         due("status()", x.status(), 1);
     }
 
+    /** The same on an object that may have no empty place. */
+    private static void find(ReturnPoints x) {
+        due("fewer than none", x, x.sheet(0, 0, -1), SIZE, 4);
+    }
+
     private static int map(ReturnPoints x, int place, long... c) {
         x.sheet(7, 2, c.length);
         for (int i = 0; i < c.length; i++) {
@@ -89,6 +94,7 @@ public final class PromisesTest {
         due("40 items", x, x.sheet(7, 2, 40), 40, 0);
         due("last item", x.set(7, 39, 5), 5);
         due("beyond", x.set(7, 40, 5), PLACE);
+        find(x);
         due("in place of it", x, x.sheet(7, 2, 40), 40, 0);
         due("is 0 at first", map(x, 0, 3), 1);
         due("sheet 1 of ints", x.sheet(1, 1, 1), 1);
@@ -118,6 +124,7 @@ public final class PromisesTest {
         x.sheet(0, 0, 3);
         x.sheet(1, 1, 3);
         x.sheet(2, 2, 3);
+        find(x);
         due("byte", x, x.set(0, 0, 127), 127, 0);
         due("byte 128", x.set(0, 0, 128), -128);
         due("byte 255", x.set(0, 1, 255), -1);
@@ -154,6 +161,7 @@ public final class PromisesTest {
         for (int i = 0; i < 5; i++) {
             x.set(0, i, i + 1);
         }
+        find(x);
         due("onto another", x, x.copy(0, 1, 1, 0, 3), 3, 0);
         dueItems(x, 1, 0, 2, 3, 4);
         due("up in itself", x, x.copy(0, 0, 0, 1, 4), 4, 0);
@@ -191,6 +199,7 @@ public final class PromisesTest {
         due("missing", x, x.drop(0), NULL, 1);
         x.sheet(0, 1, 9);
         x.sheet(1, 1, 0);
+        find(x);
         due("9 items", x, x.drop(0), 9, 0);
         due("no items", x, x.drop(1), 0, 0);
         due("none there", x.count(0), 0);
@@ -209,6 +218,7 @@ public final class PromisesTest {
         for (int i = 0; i < items.length; i++) {
             x.set(0, i, items[i]);
         }
+        find(x);
         due("five", x, x.map(0, 0, 0, 5), 5, 0);
         dueNumbers(x, 0, 6, 1, 0, 0, 6);
         due("four, of degree 1", x, x.map(1, 0, 0, 4), 2, 0);
@@ -245,6 +255,7 @@ public final class PromisesTest {
 
     private static void plain() {
         ReturnPoints x = new ReturnPoints(7);
+        find(x);
         due("c 3", x, x.plain(0, 3), 4, 0);
         dueNumbers(x, 0, 3, 0, 1);
         due("c -1", x.plain(0, -1), 4);
@@ -263,6 +274,7 @@ public final class PromisesTest {
     private static void turn() {
         ReturnPoints x = new ReturnPoints(7);
         x.plain(0, 0);
+        find(x);
         due("by 3, 5", x, x.turn(1, 0, 3, 5), 3, 0);
         dueNumbers(x, 1, 2, 3, 3);
         due("modulo p", x.turn(2, 0, -4, 12), 3);
@@ -295,6 +307,7 @@ public final class PromisesTest {
         ReturnPoints x = new ReturnPoints(101);
         x.plain(0, 1);
         x.plain(1, -2);
+        find(x);
         due("0 of 1", x, x.behind(2, 0, 1), 5, 0);
         dueNumbers(x, 2, 5, 0, 97, 0, 1);
         due("1 of 0", x, x.behind(3, 1, 0), 5, 0);
@@ -351,6 +364,7 @@ public final class PromisesTest {
     private static void number() {
         ReturnPoints x = new ReturnPoints(7);
         map(x, 0, 3, 2, 1, 6, 0);
+        find(x);
         due("degree", x, x.number(0, -1), 3, 0);
         due("c(0)", x.number(0, 0), 3);
         due("c(1)", x.number(0, 1), 2);
@@ -384,6 +398,7 @@ public final class PromisesTest {
         ReturnPoints x = oneOfEach();
         int[] told = {0, 1, 2, 3, 4, 5, 3, 5, 1};
         for (int place = 1; place <= 8; place++) {
+            find(x);
             due("kind " + place, x, x.kind(place), told[place], 0);
         }
         due("empty", x, x.kind(0), NULL, 1);
@@ -442,6 +457,7 @@ public final class PromisesTest {
         map(x, 3, 1, 1, 1);
         x.plain(4, 0);
         map(x, 5, 2, 0, 0, 1);
+        find(x);
         due("size of flat", x, x.ask(1, 0), 1, 0);
         dueTrace(x, 10);
         due("size of straight", x.ask(2, 0), 7);
@@ -471,6 +487,9 @@ public final class PromisesTest {
         dueTrace(x);
         x.plain(4, -1);
         due("period 2 of 0", x.ask(4, 1), 6 + 7 + 2);
+        ReturnPoints y = new ReturnPoints(13);
+        y.plain(0, 8);
+        due("1 has period 3, 0 has 2", y.ask(0, 1), 8 + 13 + 2);
     }
 
     private static void trace() {
@@ -493,6 +512,7 @@ public final class PromisesTest {
     private static void step() {
         ReturnPoints x = new ReturnPoints(7);
         x.plain(0, 0);
+        find(x);
         due("none", x, x.step(0, 3, 0), 3, 0);
         int[] way = {3, 2, 4, 2, 4, 2};
         for (int n = 0; n < way.length; n++) {
@@ -511,6 +531,13 @@ public final class PromisesTest {
         due("last point", x, x.step(0, 6, 1), 1, 0);
         map(x, 2, 1, 1);
         due("round and round", x.step(2, 0, 1000000000), 1000000000 % 7);
+        map(x, 3, 1, 0, 0, 1);
+        due("on a tail ahead of a ring of 1", x.step(3, 0, 1), 1);
+        due("on that ring", x.step(3, 0, 1000000000), 2);
+        ReturnPoints y = new ReturnPoints(13);
+        y.plain(0, 1);
+        due("a tail of 1, a ring of 4", y.step(0, 12, 1000000000), 1);
+        due("a tail of 2, a ring of 4", y.step(0, 6, 3), 0);
     }
 
     private static void way() {
@@ -520,6 +547,7 @@ public final class PromisesTest {
             {0, 1, 0, 1}, {0, 1, 1, 2}, {0, 2, 2, 2}, {1, 2, 2, 0}, {0, 2, 2, 2}, {1, 2, 2, 0}, {1, 1, 1, 0}};
         for (int point = 0; point < 7; point++) {
             for (int what = 0; what < 4; what++) {
+                find(x);
                 due("point " + point + " what " + what, x, x.way(0, point, what), due[point][what], 0);
             }
         }
@@ -545,6 +573,7 @@ public final class PromisesTest {
         int[][] due = {{1, 0, 0, 1}, {1, 1, 2, 2}, {2, 2, 4, 4}};
         for (int ring = 0; ring < 3; ring++) {
             for (int what = 0; what < 4; what++) {
+                find(x);
                 due("ring " + ring + " what " + what, x, x.ring(0, ring, what), due[ring][what], 0);
             }
         }
@@ -575,6 +604,7 @@ public final class PromisesTest {
 
     private static void dueAll(ReturnPoints x, int place, int... want) {
         for (int what = 0; what < 6; what++) {
+            find(x);
             due("all " + place + " " + what, x, x.all(place, what), want[what], 0);
         }
     }
@@ -591,6 +621,9 @@ public final class PromisesTest {
         dueAll(x, 3, 3, 7, 3, 0, 0, 0);
         x.plain(4, -1);
         dueAll(x, 4, 1, 2, 2, 3, 3, 1);
+        ReturnPoints three = new ReturnPoints(3);
+        three.plain(0, 1);
+        dueAll(three, 0, 1, 1, 1, 2, 1, 0);
         due("empty", x, x.all(5, 0), NULL, 1);
         due("what 6", x, x.all(0, 6), BAD, 1);
         due("what -1", x, x.all(5, -1), BAD, 1);
@@ -602,10 +635,12 @@ public final class PromisesTest {
         ReturnPoints x = new ReturnPoints(7);
         x.plain(0, 0);
         x.turn(1, 0, 3, 5);
+        find(x);
         due("turned", x, x.alike(0, 1), 1, 0);
         due("the other way", x.alike(1, 0), 1);
         due("itself", x.alike(0, 0), 1);
         x.plain(2, 1);
+        find(x);
         due("another", x, x.alike(0, 2), 0, 0);
         map(x, 3, 0, 1);
         map(x, 4, 0, 6);
@@ -639,6 +674,7 @@ public final class PromisesTest {
     private static void round() {
         ReturnPoints x = new ReturnPoints(13);
         x.plain(0, 1);
+        find(x);
         due("degree of R(1)", x, x.round(0, 1, -1), 2, 0);
         due("R(1) at 0", x.round(0, 1, 0), 1);
         due("R(1) at 1", x.round(0, 1, 1), 12);
@@ -657,6 +693,7 @@ public final class PromisesTest {
         due("R(1) of 5 x x x + 2 x + 1", x.round(1, 1, 1), 1);
         due("its first", x.round(1, 1, 3), 5);
         due("R(2), degree", x.round(1, 2, -1), 6);
+        due("R(2) at 0, a first that is not 1", x.round(1, 2, 0), 8);
         due("R(3), degree", x.round(1, 3, -1), 24);
         map(x, 2, 0, 1, 0, 0, 1);
         due("R(3) of degree 4", x, x.round(2, 3, -1), 60, 0);
