@@ -681,7 +681,7 @@ public final class ReturnPoints {
 
         /** The path came to its own point at: what is ahead of that point stays open. */
         private int closeRing(int at, int steps) {
-            int first = steps - 1;
+            int first = Math.max(steps - 1, 0);
             while (first > 0 && path[first] != at) {
                 first--;
             }
@@ -730,7 +730,7 @@ public final class ReturnPoints {
         private final int[] multiplier;
         private final int[] basin;
         private final int[] byTail;
-        private final boolean[] compared;
+        private final int[] compared;
         private int rings;
         private Poly surveyed;
 
@@ -744,7 +744,7 @@ public final class ReturnPoints {
             multiplier = new int[p];
             basin = new int[p];
             byTail = new int[p];
-            compared = new boolean[p + 1];
+            compared = new int[p + 1];
             rings = 0;
             surveyed = null;
         }
@@ -755,17 +755,21 @@ public final class ReturnPoints {
                 return;
             }
             surveyed = map;
-            Arrays.fill(comers, 0);
             for (int x = 0; x < p; x++) {
-                int to = map.valueAt(x);
-                orbits.next[x] = to;
-                comers[to]++;
+                orbits.next[x] = map.valueAt(x);
             }
+            countComers();
             orbits.followAll();
             numberRings(map);
-            for (int x = 0; x < p; x++) {
-                ringOf[x] = ringOf[orbits.entry[x]];
-                basin[ringOf[x]]++;
+            gatherBasins();
+        }
+
+        private void countComers() {
+            Arrays.fill(comers, 0);
+            for (int to : orbits.next) {
+                if (orbits.isInside(to)) {
+                    comers[to]++;
+                }
             }
         }
 
@@ -783,7 +787,7 @@ public final class ReturnPoints {
         private void goRound(Poly map, int x, int ring) {
             int product = 1;
             int at = x;
-            for (int i = 0; i < orbits.period[x]; i++) {
+            for (int i = 0; i < orbits.period[x] && orbits.isInside(at); i++) {
                 ringOf[at] = ring;
                 product = product * map.slopeAt(at) % p;
                 at = orbits.next[at];
@@ -792,6 +796,17 @@ public final class ReturnPoints {
             least[ring] = x;
             multiplier[ring] = product;
             basin[ring] = 0;
+        }
+
+        private void gatherBasins() {
+            for (int x = 0; x < p; x++) {
+                int entry = orbits.entry[x];
+                int ring = orbits.isInside(entry) ? ringOf[entry] : NONE;
+                ringOf[x] = ring;
+                if (ring >= 0 && ring < rings) {
+                    basin[ring]++;
+                }
+            }
         }
 
         int ofPoint(int x, int what) {
@@ -882,11 +897,10 @@ public final class ReturnPoints {
 
         /** Both have p points, so those of the periods here leave none for a period elsewhere. */
         boolean isLike(Orbits other) {
-            Arrays.fill(compared, false);
-            for (int x = 0; x < p; x++) {
-                int period = orbits.period[x];
-                if (!compared[period]) {
-                    compared[period] = true;
+            Arrays.fill(compared, 0);
+            for (int period : orbits.period) {
+                if (period > 0 && period < compared.length && compared[period] == 0) {
+                    compared[period] = 1;
                     if (!hasTailsOf(other, period)) {
                         return false;
                     }
@@ -897,20 +911,23 @@ public final class ReturnPoints {
 
         private boolean hasTailsOf(Orbits other, int period) {
             Arrays.fill(byTail, 0);
-            for (int x = 0; x < p; x++) {
-                if (orbits.period[x] == period) {
-                    byTail[orbits.tail[x]]++;
-                }
-                if (other.period[x] == period) {
-                    byTail[other.tail[x]]--;
-                }
-            }
+            tally(orbits, period, 1);
+            tally(other, period, -1);
             for (int difference : byTail) {
                 if (difference != 0) {
                     return false;
                 }
             }
             return true;
+        }
+
+        private void tally(Orbits of, int period, int by) {
+            for (int x = 0; x < of.size; x++) {
+                int tail = of.tail[x];
+                if (of.period[x] == period && tail >= 0 && tail < byTail.length) {
+                    byTail[tail] += by;
+                }
+            }
         }
     }
 
@@ -1030,7 +1047,7 @@ public final class ReturnPoints {
             }
             orbits.followAll();
             listed = 0;
-            for (int x = 0; x < orbits.size; x++) {
+            for (int x = 0; x < orbits.size && listed < list.length; x++) {
                 if (orbits.period[x] != Orbits.GONE) {
                     list[listed] = x;
                     listed++;
